@@ -842,11 +842,12 @@ public final class VillageWaves {
             return sum;
         }
 
-        /** The news of the first one among a house's entries for these news. */
+        /** The news of the first one among a house's entries for these news; the lowest of several. */
         int first(int house, int among) {
             int first = NONE;
             for (int news = 0; news < MOST_NEWS; news++) {
-                if (contains(among, news) && (first == NONE || isAhead(house, news, first))) {
+                boolean isAhead = first == NONE || time(house, news) < time(house, first);
+                if (contains(among, news) && isAhead) {
                     first = news;
                 }
             }
@@ -860,12 +861,6 @@ public final class VillageWaves {
                 left &= ~bit(first(house, left));
             }
             return first(house, left);
-        }
-
-        private boolean isAhead(int house, int one, int other) {
-            int oneTime = time(house, one);
-            int otherTime = time(house, other);
-            return oneTime < otherTime || oneTime == otherTime && one < other;
         }
     }
 
