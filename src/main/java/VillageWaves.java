@@ -56,8 +56,7 @@ public final class VillageWaves {
     private final Village firstSaved = new Village();
     private final Village secondSaved = new Village();
     private int savedSlots = 0;
-    private final Text text = new Text();
-    private final Reader reader = new Reader(text, draft);
+    private final Reader reader = new Reader();
 
     public VillageWaves() {
     }
@@ -65,6 +64,7 @@ public final class VillageWaves {
     // ---- setup texts
 
     public int appendText(int fourBytes) throws IllegalStateException {
+        Text text = reader.text;
         if (text.length + 4 > MOST_BYTES) {
             throw new IllegalStateException("the text would be too long");
         }
@@ -76,14 +76,14 @@ public final class VillageWaves {
     }
 
     public int truncateText(int length) throws IllegalArgumentException {
-        checkWithin(length, 0, text.length);
-        text.length = length;
+        checkWithin(length, 0, reader.text.length);
+        reader.text.length = length;
         return length;
     }
 
     public int load() {
-        boolean isSetup = reader.readSetup();
-        text.length = 0;
+        boolean isSetup = reader.readSetup(draft);
+        reader.text.length = 0;
         if (!isSetup) {
             return NONE;
         }
@@ -1223,20 +1223,14 @@ public final class VillageWaves {
         }
     }
 
-    /** Reads a text as a setup; behind an error it reads no more, and its village is of no use. */
+    /** Reads its text as a setup; behind an error it reads no more, and the village is of no use. */
     private static final class Reader {
-        private final Text text;
-        private final Village village;
+        private final Text text = new Text();
         private int code = 0;
         private int position = NONE;
 
-        Reader(Text text, Village village) {
-            this.text = text;
-            this.village = village;
-        }
-
         /** Makes the village as the text tells; answers whether the text has no error. */
-        boolean readSetup() {
+        boolean readSetup(Village village) {
             code = 0;
             position = NONE;
             village.clear();
@@ -1248,14 +1242,14 @@ public final class VillageWaves {
             }
             for (int read = 0; read < MOST_BYTES && code == 0 && text.kind != Text.END; read++) {
                 if (text.isWord("house")) {
-                    readHouse();
+                    readHouse(village);
                 } else if (text.isWord("set")) {
-                    readSetting();
+                    readSetting(village);
                 } else if (text.isWord("seed")) {
                     text.step();
                     village.lot = readNumber(0, LOTS - 1);
                 } else if (text.isWord("news")) {
-                    readNews();
+                    readNews(village);
                 } else {
                     fail(NOT_ALLOWED);
                 }
@@ -1264,7 +1258,7 @@ public final class VillageWaves {
             return code == 0;
         }
 
-        private void readHouse() {
+        private void readHouse(Village village) {
             if (village.homes.isFull()) {
                 fail(TOO_MANY);
                 return;
@@ -1283,14 +1277,14 @@ public final class VillageWaves {
             }
         }
 
-        private void readSetting() {
+        private void readSetting(Village village) {
             text.step();
             int what = readNumber(0, SETTINGS - 1);
             int value = readNumber(element(LEAST_VALUES, what), element(MOST_VALUES, what));
             village.settings.put(what, value);
         }
 
-        private void readNews() {
+        private void readNews(Village village) {
             if (village.tidings.isFull()) {
                 fail(TOO_MANY);
                 return;
