@@ -84,11 +84,14 @@ abstract class Asked {
 
     // ---- all that there is
 
-    /** All that the calls tell, of the text and of the saved states too; the village is used up by it. */
+    /**
+     * All that the calls tell, of the text and of the saved states too; the village is used up by it. The text
+     * is known by its load: of one that ends too early the error position is the length.
+     */
     static String stateOf(VillageWaves v) {
         StringBuilder all = new StringBuilder(seen(v));
         all.append(" error ").append(v.errorCode()).append(' ').append(v.errorPosition());
-        all.append(" text ").append(textLength(v)).append(' ').append(v.load());
+        all.append(" text ").append(v.load());
         all.append(' ').append(v.errorCode()).append(' ').append(v.errorPosition()).append(counts(v));
         for (int slot = 0; slot < 2; slot++) {
             all.append(" slot ").append(slot).append(restored(v, slot));
@@ -116,7 +119,7 @@ abstract class Asked {
                 all.append(' ').append(v.news(news, what));
             }
         }
-        for (int index = 0; index < Math.min(4, v.count(10)); index++) {
+        for (int index = 0; index < Math.min(12, v.count(10)); index++) {
             for (int what = 0; what <= 5; what++) {
                 all.append(' ').append(v.spoken(index, what));
             }
@@ -139,29 +142,6 @@ abstract class Asked {
             return " empty";
         }
         return counts(v);
-    }
-
-    /** The length of the text; four blanks stand behind it then, if there is room for them. */
-    static int textLength(VillageWaves v) {
-        try {
-            return v.appendText(0x20202020) - 4;
-        } catch (IllegalStateException e) {
-            for (int length = 700; length > 697; length--) {
-                if (isCut(v, length)) {
-                    return length;
-                }
-            }
-            return 697;
-        }
-    }
-
-    private static boolean isCut(VillageWaves v, int length) {
-        try {
-            v.truncateText(length);
-            return true;
-        } catch (IllegalArgumentException e) {
-            return false;
-        }
     }
 
     // ---- villages

@@ -78,6 +78,15 @@ final class PromiseSentences extends Asked {
         due("to nothing", 0, v.truncateText(0));
     }
 
+    @Holds(where = "Promise 3", sentence = "Returns the new length.")
+    static void theNewLength() {
+        VillageWaves v = new VillageWaves();
+        write(v, times(700, " "));
+        for (int length : new int[] {700, 699, 350, 1, 0, 0}) {
+            due("length", length, v.truncateText(length));
+        }
+    }
+
     @Holds(where = "Promise 3", sentence = "Throws `IllegalArgumentException` if length is out of range")
     static void cutsToNoOtherLength() {
         VillageWaves v = new VillageWaves();
@@ -104,6 +113,14 @@ final class PromiseSentences extends Asked {
         v.appendText(0x3B202020);
         v.load();
         due("what was cut does not come back", 1, v.count(9));
+        write(v, "day 300");
+        v.truncateText(6);
+        v.load();
+        due("a number ends where it is cut", 6, v.errorPosition());
+        write(v, "seeds");
+        v.truncateText(4);
+        v.load();
+        due("and a word", 4, v.errorPosition());
     }
 
     // ---- Promise 4
@@ -127,6 +144,12 @@ final class PromiseSentences extends Asked {
         refused("slot 0", STATE, () -> v.restore(0));
         v.restore(1);
         due("the saved state stays", seen(changedInAll()), seen(v));
+        VillageWaves spoke = chatter();
+        spoke.ahead(9, 0);
+        write(spoke, "house 0 0 0 0 1;");
+        spoke.load();
+        due("no house has spoken on this day", 0, spoke.house(0, 8));
+        due("nor ever", 0, spoke.house(0, 9));
     }
 
     /** At the time 33, with entries of all kinds: 1 owes the correction of its news 0 to 0, that is quiet. */
@@ -263,6 +286,31 @@ final class PromiseSentences extends Asked {
         return v.addHouse(p[0], p[1], p[2], p[3], p[4]);
     }
 
+    @Holds(where = "Promise 7", sentence = "Throws `IllegalArgumentException` if a parameter is out of range")
+    static void noHouseWithAWrongParameter() {
+        VillageWaves v = line();
+        int[] wrong = {100, 100, 151, 1000, 10};
+        for (int which = 0; which < 5; which++) {
+            int number = which;
+            refused("one that is too great", ARGUMENT, () -> addHouseWith(v, number, wrong[number]));
+            refused("one that is too small", ARGUMENT, () -> addHouseWith(v, number, number == 4 ? 0 : -1));
+        }
+        refused("all of them", ARGUMENT, () -> v.addHouse(LOW, HIGH, LOW, HIGH, LOW));
+        due("houses", 3, v.count(6));
+        due("ranges", 0b101, v.house(1, 14));
+    }
+
+    @Holds(where = "Promise 7", sentence = "Returns its number.")
+    static void numbersGoOnBehindThoseThatWereTold() {
+        VillageWaves v = new VillageWaves();
+        due("the first one", 0, v.addHouse(0, 0, 0, 0, 1));
+        VillageWaves more = line();
+        due("behind three of a text", 3, more.addHouse(0, 0, 0, 0, 1));
+        due("and one more", 4, more.addHouse(0, 0, 0, 0, 1));
+        more.load();
+        due("behind none", 0, more.addHouse(0, 0, 0, 0, 1));
+    }
+
     @Holds(where = "Promise 7", sentence = "Throws `IllegalStateException` if there are 12 houses")
     static void noThirteenthHouse() {
         VillageWaves v = loaded(times(11, "house 0 0 0 0 1;"));
@@ -373,6 +421,16 @@ final class PromiseSentences extends Asked {
         due("the other one", 0, v.house(0, 3));
     }
 
+    @Holds(where = "Promise 9", sentence = "Returns the battery then.")
+    static void theBatteryAsItIsKept() {
+        VillageWaves v = line();
+        due("empty, not below", 0, v.charge(1, -101));
+        due("full, not above", 999, v.charge(2, 900));
+        due("as it is", 100, v.charge(0, 0));
+        due("of house 1", 0, v.house(1, 3));
+        due("of house 2", 999, v.house(2, 3));
+    }
+
     @Holds(where = "Promise 9", sentence = "Throws `IllegalArgumentException` if more is out of range")
     static void chargesNoMoreThanABattery() {
         VillageWaves v = line();
@@ -438,6 +496,17 @@ final class PromiseSentences extends Asked {
     }
 
     // ---- Promise 12
+
+    @Holds(where = "Promise 12", sentence = "`what`: 0 to 4: the settings; 5: DAY; 6: houses; 7: news; 8: the time; 9: X;")
+    static void theLeastAndTheMostThatIsCounted() {
+        VillageWaves least = loaded("day 24;set 0 1;set 1 0;set 2 0;set 3 1;set 4 0;seed 0;");
+        dueCounts(least, 1, 0, 0, 1, 0, 24, 0, 0, 0, 0);
+        VillageWaves most = loaded("day 240;set 0 50;set 1 20;set 2 200;set 3 99;set 4 11;seed 1000002;" + times(12, "house 0 0 0 0 1;")
+                + times(20, "news 0 0;"));
+        dueCounts(most, 50, 20, 200, 99, 11, 240, 12, 20, 0, 1000002);
+        most.run(240);
+        due("the time is not that of the day", 240, most.count(8));
+    }
 
     @Holds(where = "Promise 12", sentence = "Throws `IllegalArgumentException` if what is out of range")
     static void countsFrom0To13() {
@@ -526,6 +595,14 @@ final class PromiseSentences extends Asked {
         noSuchHouse(3, house -> line().house(house, 0));
         refused("what 15 too", INDEX, () -> line().house(3, 15));
         refused("of none", INDEX, () -> new VillageWaves().house(0, 0));
+    }
+
+    @Holds(where = "Promise 13", sentence = "`what`: 0: x; 1: y; 2: RANGE; 3: battery; 4: SHARE;")
+    static void theLeastAndTheMostOfAHouse() {
+        VillageWaves v = loaded("house 0 99 0 999 1;house 99 0 150 0 9;" + times(9, "house 1 1 1 1 1;") + "house 98 2 149 4 5;");
+        dueHouse(v, 0, 0, 99, 0, 999, 1);
+        dueHouse(v, 1, 99, 0, 150, 0, 9);
+        dueHouse(v, 11, 98, 2, 149, 4, 5);
     }
 
     @Holds(where = "Promise 13", sentence = "5: A (NONE without quiet hours); 6: B (likewise);")
@@ -696,6 +773,16 @@ final class PromiseSentences extends Asked {
         }
     }
 
+    @Holds(where = "Promise 14", sentence = "`what`: 0: 1 if it is for a correction, else 0; 1: the number of the news; 2: time;")
+    static void theFirstAndTheLastNewsAsEntries() {
+        VillageWaves v = loaded("set 2 0;house 0 0 9 0 1;house 0 0 9 0 1;" + times(19, "news 0 0;"));
+        v.run(500);
+        v.tell(0, 1);
+        dueEntry(v, 0, 0, 0, 0, 0, 0, 1);
+        dueEntry(v, 0, 18, 0, 18, 0, 0, 1);
+        dueEntry(v, 0, 19, 0, 19, 500, 0, 1);
+    }
+
     @Holds(where = "Promise 14", sentence = "3: hops (NONE for a correction);")
     static void hopsOfAnEntry() {
         VillageWaves v = line();
@@ -743,6 +830,16 @@ final class PromiseSentences extends Asked {
         }
         due("the first one", 0, v.news(0, 0));
         due("the last one", 2, v.news(0, 9));
+    }
+
+    @Holds(where = "Promise 15", sentence = "`what`: 0: author; 1: the time when it was told; 2: BODY;")
+    static void theFirstAndTheLastAuthorTimeAndBody() {
+        VillageWaves v = loaded(times(12, "house 0 0 0 0 1;") + times(18, "news 0 0;") + "news 11 99;");
+        v.run(500);
+        v.tell(11, 0);
+        dueNews(v, 0, 0, 0, 0);
+        dueNews(v, 18, 11, 0, 99);
+        dueNews(v, 19, 11, 500, 0);
     }
 
     @Holds(where = "Promise 15", sentence = "3: BODY of its correction; 4: the house that corrected it; 5: the time when it did (3 to 5: NONE if it is not corrected);")
@@ -896,6 +993,19 @@ final class PromiseSentences extends Asked {
         }
     }
 
+    @Holds(where = "Promise 18", sentence = "`what`: 0: the time; 1: the house; 2: 1 for a correction, else 0; 3: the number of the news;")
+    static void theLastHouseAndTheLastNewsSpeak() {
+        VillageWaves v = loaded(times(11, "house 0 0 9 0 1;") + "house 0 0 9 99 9;" + times(19, "news 0 0;"));
+        v.set(1, 0);
+        v.tell(11, 1);
+        v.run(1);
+        dueSpoken(v, 0, 0, 11, 0, 19, 0x7FF, 0x7FF);
+        v.correct(11, 19, 1);
+        v.run(1);
+        dueSpoken(v, 0, 1, 11, 1, 19, 0x7FF, 0x7FF);
+        dueSpoken(v, 1, 0, 11, 0, 19, 0x7FF, 0x7FF);
+    }
+
     @Holds(where = "Promise 18", sentence = "4: the houses that heard it (as a set); 5: those of them that got or learned it by that (as a set)")
     static void nobodyOrAllOthersHeardIt() {
         VillageWaves v = loaded(times(12, "house 0 0 9 99 1;") + "news 11 1;");
@@ -966,6 +1076,18 @@ final class PromiseSentences extends Asked {
         v.correct(0, 1, 99);
         due("least", 0, v.news(0, 3));
         due("most", 99, v.news(1, 3));
+    }
+
+    @Holds(where = "Promise 20", sentence = "A house corrects a news: it learns the correction.")
+    static void theCorrectorNeedNotBeTheAuthorNorAwake() {
+        VillageWaves v = told();
+        v.tell(2, 1);
+        v.setQuiet(2, 0, 47);
+        v.charge(2, -999);
+        due("it owes 1", 1, v.correct(2, 0, 8));
+        dueNews(v, 0, 0, 0, 7, 8, 2, 10, 0b111, 0b100, 0b011, 2);
+        dueEntry(v, 2, 0, 1, 0, 10, NONE, 0);
+        due("its own news stays in its queue", 2, v.house(2, 13));
     }
 
     @Holds(where = "Promise 20", sentence = "Throws `IllegalArgumentException` if body is out of range")
@@ -1254,6 +1376,22 @@ final class PromiseSentences extends Asked {
         refused("wrong minutes too", INDEX, () -> told().reached(1, 0, 3));
     }
 
+    @Holds(where = "Promise 29", sentence = "0: houses that know it behind these minutes; 1: houses that know its correction;")
+    static void fromTheAuthorAloneToAllHouses() {
+        VillageWaves v = loaded(chain() + "news 0 1;");
+        for (int minutes = 1; minutes <= 13; minutes++) {
+            due("behind " + minutes, Math.min(12, minutes + 1), v.reached(0, minutes, 0));
+            due("no correction", 0, v.reached(0, minutes, 1));
+        }
+        v.run(12);
+        v.correct(11, 0, 1);
+        for (int minutes = 1; minutes <= 13; minutes++) {
+            due("the correction behind " + minutes, Math.min(12, minutes + 1), v.reached(0, minutes, 1));
+        }
+        VillageWaves alone = loaded("house 0 0 0 99 1;news 0 1;");
+        due("the author alone", 1, alone.reached(0, 500, 0));
+    }
+
     @Holds(where = "Promise 29", sentence = "2: houses that know it, but not its correction (0 if it is not corrected)")
     static void noneIsWrongUntilItIsCorrected() {
         VillageWaves v = told();
@@ -1306,6 +1444,18 @@ final class PromiseSentences extends Asked {
         v.run(221);
         v.correct(0, 0, 1);
         return v;
+    }
+
+    @Holds(where = "Promise 30", sentence = "`most`: 1 to 500")
+    static void withinOneOrWithin500Minutes() {
+        VillageWaves v = loaded("house 0 0 9 99 1;house 1 0 9 99 1;news 0 1;");
+        v.run(5);
+        v.correct(0, 0, 1);
+        due("within 1", 1, v.correctedIn(0, 1));
+        due("within 500", 1, v.correctedIn(0, 500));
+        v.setQuiet(0, 5, 5);
+        due("not within 1", NONE, v.correctedIn(0, 1));
+        due("within 2", 2, v.correctedIn(0, 2));
     }
 
     @Holds(where = "Promise 30", sentence = "Throws `IllegalArgumentException` if most is out of range")
@@ -1429,6 +1579,13 @@ final class PromiseSentences extends Asked {
         }
     }
 
+    @Holds(where = "Promise 32", sentence = "Returns the house with which most houses know that news then,")
+    static void theLastOfTwelveReachesOneMore() {
+        String text = times(11, "house 0 0 1 9 1;") + "house 1 0 1 9 1;";
+        due("all reach all", 0, loaded("set 4 0;" + text).bestAuthor(1));
+        due("the last one has the range", 11, loaded("set 4 0;" + text.replace("0 0 1 9", "0 0 0 9")).bestAuthor(1));
+    }
+
     @Holds(where = "Promise 32", sentence = "of several the lowest;")
     static void ofSeveralTheLowestAuthor() {
         due("one each", 0, loaded(times(12, "house 0 0 0 0 1;")).bestAuthor(200));
@@ -1456,6 +1613,8 @@ final class PromiseSentences extends Asked {
         twin.tell(2, 1);
         twin.save(0);
         due("all there is", stateOf(twin), stateOf(v));
+        VillageWaves tired = loaded("house 0 0 5 99 1;house 5 0 9 5 1;house 14 0 0 99 1;");
+        due("1 has not heard what was tried for 0", 1, tired.bestAuthor(9));
     }
 
     // ---- Promises 33 and 34
@@ -1529,16 +1688,31 @@ final class PromiseSentences extends Asked {
         due("twice", due, seen(v));
         VillageWaves other = changedInAll();
         other.save(1);
-        write(other, "house 0 0 0 99 1;");
+        write(other, "house 0 0 0 99 1;house 9 9 0 99 1;");
         other.load();
         other.run(7);
         for (int news = 0; news < 4; news++) {
-            other.tell(0, 9);
+            other.tell(1, 9);
         }
-        other.correct(0, 3, 1);
+        other.correct(1, 3, 1);
         other.run(9);
         other.restore(1);
         due("behind a load", due, seen(other));
+    }
+
+    @Holds(where = "Promise 34", sentence = "`slot`: 0 or 1")
+    static void eachSlotBringsBackItsOwn() {
+        VillageWaves v = line();
+        v.save(1);
+        v.seed(77);
+        v.save(0);
+        v.seed(99);
+        v.restore(1);
+        due("slot 1", 1, v.count(9));
+        v.restore(0);
+        due("slot 0", 77, v.count(9));
+        v.restore(1);
+        due("slot 1, again", 1, v.count(9));
     }
 
     @Holds(where = "Promise 34", sentence = "Throws `IllegalStateException` if nothing is saved there")

@@ -19,6 +19,8 @@ final class SetupSentences extends Asked {
         errs("see d 1;", 1, 0);
         errs("see", 1, 0);
         errs("seeds 1;", 1, 0);
+        errs("deed 1;", 1, 0);
+        errs("mouse 1 2 3 4 5;", 1, 0);
         errs("seed1;zay", 1, 6);
         errs("hous", 1, 0);
         errs("houses 1 2 3 4 5;", 1, 0);
@@ -223,6 +225,7 @@ final class SetupSentences extends Asked {
     static void newsAreToldAtTheTimeZero() {
         VillageWaves v = new VillageWaves();
         v.run(77);
+        v.ahead(5, 0);
         write(v, "house 0 0 9 99 1;house 1 0 9 99 1;news 1 5;set 4 0;");
         v.load();
         due("the time", 0, v.count(8));

@@ -1,3 +1,5 @@
+import java.util.Set;
+import java.util.TreeSet;
 import java.util.function.IntPredicate;
 import java.util.function.Supplier;
 import java.util.function.ToIntFunction;
@@ -577,6 +579,23 @@ final class TermsSentences extends Asked {
         }
     }
 
+    @Holds(where = "Terms, A MINUTE", sentence = "If houses wish to speak, one of them is drawn:")
+    static void oneSpeaksOfNoneOneOrAll() {
+        due("of none", 0, loaded(times(12, "house 0 0 0 99 9;")).run(1));
+        due("of one", 1, loaded(times(12, "house 0 0 0 99 9;") + "news 11 1;").run(1));
+        VillageWaves v = loaded(times(12, "house 0 0 0 99 9;"));
+        for (int house = 0; house < 12; house++) {
+            v.tell(house, 1);
+        }
+        due("of all", 1, v.run(1));
+        int spoke = 0;
+        for (int house = 0; house < 12; house++) {
+            spoke += v.house(house, 9);
+        }
+        due("one alone", 1, spoke);
+        due("its entry alone was sent", 11, Integer.bitCount(v.news(v.spoken(0, 3), 6)) - 1);
+    }
+
     @Holds(where = "Terms, A MINUTE", sentence = "a draw by the sum of their SHAREs;")
     static void theLastNumberOfTheGreatestDraw() {
         VillageWaves v = loaded(times(12, "house 0 0 0 99 9;"));
@@ -913,8 +932,9 @@ final class TermsSentences extends Asked {
         keeps("truncateText", ARGUMENT, TermsSentences::used, v -> v.truncateText(9));
         keeps("addHouse", ARGUMENT, TermsSentences::used, v -> v.addHouse(1, 1, 1, 1, 10));
         keeps("setQuiet of no house", INDEX, TermsSentences::used, v -> v.setQuiet(3, 1, 2));
-        keeps("setQuiet", ARGUMENT, TermsSentences::used, v -> v.setQuiet(0, 5, 48));
-        keeps("setQuiet with one NONE", ARGUMENT, TermsSentences::used, v -> v.setQuiet(0, 5, NONE));
+        keeps("setQuiet", ARGUMENT, TermsSentences::used, v -> v.setQuiet(2, 5, 48));
+        keeps("setQuiet with A alone", ARGUMENT, TermsSentences::used, v -> v.setQuiet(2, 5, NONE));
+        keeps("setQuiet with B alone", ARGUMENT, TermsSentences::used, v -> v.setQuiet(2, NONE, 5));
         keeps("charge", ARGUMENT, TermsSentences::used, v -> v.charge(0, 1000));
         keeps("set", ARGUMENT, TermsSentences::used, v -> v.set(0, 51));
         keeps("seed", ARGUMENT, TermsSentences::used, v -> v.seed(1000003));
@@ -937,13 +957,14 @@ final class TermsSentences extends Asked {
         keeps("bestAuthor", ARGUMENT, TermsSentences::used, v -> v.bestAuthor(201));
     }
 
-    /** A village with news, a correction on its way, a text of 8 bytes, an error, and the slot 1 saved. */
+    /** A village with news, a correction on its way, a text of 8 bytes that ends too early, an error, and the slot 1 saved. */
     private static VillageWaves used() {
         VillageWaves v = told();
+        v.setQuiet(2, 12, 13);
         v.save(1);
         write(v, "x");
         v.load();
-        write(v, "seed 7; ");
+        write(v, "seed 7  ");
         v.tell(1, 3);
         v.correct(0, 0, 9);
         v.run(1);
@@ -952,7 +973,7 @@ final class TermsSentences extends Asked {
 
     private static VillageWaves fullOfText() {
         VillageWaves v = line();
-        write(v, times(87, "seed 78;") + "x");
+        write(v, times(86, "seed 78;") + "seed 6789");
         return v;
     }
 
@@ -1004,25 +1025,73 @@ final class TermsSentences extends Asked {
     }
 
     @Holds(where = "Terms", sentence = "predictions (with the lots that would be drawn, if only time passes; nothing changes).")
-    static void predictionsDrawTheLotsThatComeAndChangeNothing() {
-        for (int seed = 0; seed < 30; seed++) {
-            int x = 33000 * seed;
-            VillageWaves v = lottery(x);
-            int reached = v.reached(0, 4, 0);
-            int spoken = v.ahead(4, 0);
-            v.correctedIn(1, 500);
-            v.bestAuthor(200);
-            due("nothing changed", stateOf(lottery(x)), stateOf(v));
-            VillageWaves played = lottery(x);
-            due("minutes in which a house speaks", spoken, played.run(4));
-            due("houses that know it", reached, Integer.bitCount(played.news(0, 6)));
+    static void predictionsDrawTheLotsThatCome() {
+        Set<String> answers = new TreeSet<>();
+        for (int seed = 0; seed < 40; seed++) {
+            VillageWaves v = lottery(25000 * seed);
+            int reached = v.reached(2, 2, 0);
+            int corrected = v.correctedIn(0, 500);
+            int got = v.ahead(2, 1);
+            int learned = v.ahead(2, 2);
+            int best = v.bestAuthor(2);
+            answers.add(reached + " " + corrected + " " + got + " " + learned + " " + best);
+            due("bestAuthor", bestPlayed(lottery(25000 * seed)), best);
+            v.run(2);
+            due("reached", Integer.bitCount(v.news(2, 6)), reached);
+            due("got", Integer.bitCount(v.news(1, 6) & ~8) + Integer.bitCount(v.news(2, 6) & ~8), got);
+            due("learned", v.news(0, 8) == 0 ? 1 : 0, learned);
+            due("correctedIn", corrected, behindMinutes(lottery(25000 * seed)));
         }
+        due("the lots decide", true, answers.size() > 5);
     }
 
-    /** Two houses wish to speak; who is drawn decides whom the news 0 reaches within four minutes. */
+    /** House 0 owes a correction to 1, and house 3 has two news for 2: who speaks is drawn. */
     private static VillageWaves lottery(int x) {
-        VillageWaves v = loaded("seed " + x + ";house 0 0 10 9 1;house 10 0 10 9 2;house 20 0 10 9 1;news 0 1;news 2 2;news 2 2;");
-        v.correct(2, 1, 5);
+        VillageWaves v = loaded("seed " + x + ";house 0 0 5 99 1;house 5 0 5 99 1;house 50 0 5 99 1;house 55 0 5 99 2;news 0 1;");
+        v.run(9);
+        v.seed(x);
+        v.correct(0, 0, 5);
+        v.tell(3, 6);
+        v.tell(3, 7);
         return v;
+    }
+
+    private static int bestPlayed(VillageWaves v) {
+        int best = NONE;
+        int most = 0;
+        v.save(0);
+        for (int house = 0; house < 4; house++) {
+            int news = v.tell(house, 0);
+            v.run(2);
+            int known = Integer.bitCount(v.news(news, 6));
+            best = known > most ? house : best;
+            most = Math.max(known, most);
+            v.restore(0);
+        }
+        return best;
+    }
+
+    private static int behindMinutes(VillageWaves v) {
+        int minutes = 0;
+        while (v.news(0, 8) != 0 && minutes < 100) {
+            v.run(1);
+            minutes++;
+        }
+        return minutes;
+    }
+
+    @Holds(where = "Terms", sentence = "if only time passes; nothing changes).")
+    static void predictionsChangeNothing() {
+        VillageWaves v = lottery(777);
+        for (int what = 0; what < 4; what++) {
+            v.ahead(500, what);
+            v.reached(0, 500, Math.min(what, 2));
+        }
+        v.correctedIn(0, 500);
+        v.bestAuthor(200);
+        v.wishes();
+        v.next();
+        v.chance(0);
+        due("all there is", stateOf(lottery(777)), stateOf(v));
     }
 }
