@@ -155,31 +155,24 @@ public final class RandomRunsTest {
         }
     }
 
-    /** What all calls tell that ask without an effect; these are not noted among the calls. */
+    /** What all calls tell that ask without an effect, up to one beyond what there is; these are not noted. */
     private void compareAll() {
         int noted = calls.size();
+        int houses = (Integer) answer(model, "count", new int[] {6});
+        int allNews = (Integer) answer(model, "count", new int[] {7});
         for (int what = 0; what <= 13; what++) {
             both("count", what);
         }
-        for (int house = 0; house < 12; house++) {
-            for (int what = 0; what <= 14; what++) {
-                both("house", house, what);
-            }
-            for (int news = 0; news < 20; news++) {
-                both("source", house, news);
-                both("owes", house, news);
-            }
-            for (int index = 0; index < 41; index++) {
-                for (int what = 0; what <= 4; what++) {
-                    both("entry", house, index, what);
-                }
-            }
+        for (int house = 0; house < houses; house++) {
+            compareHouse(house, allNews);
         }
-        for (int news = 0; news < 20; news++) {
+        both("house", houses, 0);
+        for (int news = 0; news < allNews; news++) {
             for (int what = 0; what <= 9; what++) {
                 both("news", news, what);
             }
         }
+        both("news", allNews, 0);
         for (int index = 0; index < 32; index++) {
             for (int what = 0; what <= 5; what++) {
                 both("spoken", index, what);
@@ -191,6 +184,23 @@ public final class RandomRunsTest {
             calls.subList(noted, calls.size()).clear();
         }
         calls.add("compareAll");
+    }
+
+    private void compareHouse(int house, int allNews) {
+        for (int what = 0; what <= 14; what++) {
+            both("house", house, what);
+        }
+        for (int news = 0; news < allNews; news++) {
+            both("source", house, news);
+            both("owes", house, news);
+        }
+        int entries = (Integer) answer(model, "house", new int[] {house, 13});
+        for (int index = 0; index < entries; index++) {
+            for (int what = 0; what <= 4; what++) {
+                both("entry", house, index, what);
+            }
+        }
+        both("entry", house, entries, 0);
     }
 
     private void loadText(String text) {
